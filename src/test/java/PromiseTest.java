@@ -1,9 +1,5 @@
 /** Each promise by number: ordinary inputs, the edges that the document names, and wrong inputs. */
-public final class PromiseTest {
-    private static final int MIN = Integer.MIN_VALUE;
-    private static final int MAX = Integer.MAX_VALUE;
-    private static final Check CHECK = new Check();
-
+public final class PromiseTest extends DeskChecks {
     public static void main(String[] args) {
         newObject();
         mill();
@@ -33,50 +29,6 @@ public final class PromiseTest {
         undo();
         share();
         CHECK.end();
-    }
-
-    private static void is(String call, long got, long due) {
-        CHECK.same(call, got, due);
-    }
-
-    private static void yes(String call, boolean got) {
-        CHECK.same(call, got, true);
-    }
-
-    private static void no(String call, boolean got) {
-        CHECK.same(call, got, false);
-    }
-
-    /** A desk with the MILL and WIDTHS told, nothing ORDERED. */
-    private static ReelSlitter desk(int w, int edge, int knives, int... widths) {
-        ReelSlitter x = new ReelSlitter();
-        yes("mill", x.mill(w, edge, knives));
-        for (int i = 0; i < widths.length; i++) {
-            is("width", x.width(widths[i], 0), i);
-        }
-        return x;
-    }
-
-    private static void orders(ReelSlitter x, int... pieces) {
-        for (int i = 0; i < pieces.length; i++) {
-            yes("order", x.order(i, pieces[i]));
-        }
-    }
-
-    private static void counts(String about, ReelSlitter x, int s, int rolls, int... counts) {
-        is(about + ": rolls of slot " + s, x.slotted(s, 0), rolls);
-        for (int i = 0; i < counts.length; i++) {
-            is(about + ": count " + i + " of slot " + s, x.slotted(s, 10 + i), counts[i]);
-        }
-    }
-
-    private static int add(ReelSlitter x, int n, int a, int b, int c) {
-        return x.slot(x.find(a, b, c, 0, 0, 0), n);
-    }
-
-    /** 3001 PATTERNS FIT for W 905, 3000 for 904: 10 small pieces of 5 WIDTHS make 3002, less 10 x 100, less 9 x 100 + 5. */
-    private static ReelSlitter many(int w) {
-        return desk(w, 0, 10, 100, 2, 3, 4, 5);
     }
 
     private static void newObject() {
@@ -349,8 +301,8 @@ public final class PromiseTest {
         is("below 0", x.find(3, -1, 0, 0, 0, 0) + x.find(-1, 1, 0, 0, 0, 0), -2);
         is("far above", x.find(2, 33, 0, 0, 0, 0) + x.find(0, 32, 0, 0, 0, 0), -2);
         is("odd ones", x.find(MIN, 0, 0, 0, 0, 0) + x.find(0, 0, 0, 0, 0, MAX) + x.find(3, 0, 0, 0, 0, MIN), -3);
-        x = desk(10000, 0, 5, 1, 2, 3, 4, 5, 6);
-        for (int k = 0; k < x.patterns(); k++) {
+        for (int k = 0; k < 461; k++) {
+            x = desk(10000, 0, 5, 1, 2, 3, 4, 5, 6);
             is("find of pattern " + k, x.find((int) x.pattern(k, 0), (int) x.pattern(k, 1), (int) x.pattern(k, 2),
                     (int) x.pattern(k, 3), (int) x.pattern(k, 4), (int) x.pattern(k, 5)), k);
         }

@@ -1,9 +1,11 @@
 import java.util.Random;
 
-/** Runs of calls from fixed seeds: the class and the naive desk answer alike, call by call. */
+/** Runs of 512 calls from fixed seeds: the class and the naive desk answer alike, call by call. */
 public final class RandomRunsTest {
-    private static final int RUNS = 600;
-    private static final int CALLS = 300;
+    private static final int RUNS = 2000;
+    private static final int MOST_CALLS = 512;
+    /** A call below may make up to 70 calls of the desk and look 30 times behind them. */
+    private static final int LAST_START = 400;
     private static final int[] ODD = {Integer.MIN_VALUE, -4, -3, -2, -1, 0, 1, 2, 5, 6, 7, 8, 9, 16, 61, Integer.MAX_VALUE};
 
     private final Check check;
@@ -12,6 +14,7 @@ public final class RandomRunsTest {
     private final NaiveDesk naive = new NaiveDesk();
     private final int scale;
     private final boolean narrow;
+    private int calls = 0;
 
     private RandomRunsTest(Check check, long seed) {
         this.check = check;
@@ -31,13 +34,13 @@ public final class RandomRunsTest {
 
     private void run() {
         setUp();
-        for (int n = 0; n < CALLS && check.wrongOnes() == 0; n++) {
+        while (calls < LAST_START && check.wrongOnes() == 0) {
             call(random.nextInt(100));
-            if (n % 20 == 0) {
-                observe();
+            if (random.nextInt(20) == 0) {
+                look(30);
             }
         }
-        observe();
+        look(MOST_CALLS);
     }
 
     private int upTo(int most) {
@@ -89,21 +92,22 @@ public final class RandomRunsTest {
         else if (kind < 43) fewest();
         else if (kind < 53) slot(somePattern(), random.nextInt(4) == 0 ? some(1001) : 1 + upTo(3));
         else if (kind < 56) drop(someSlot() - upTo(1));
-        else if (kind < 63) same("slotted", someSlotted(), 0);
+        else if (kind < 63) slotted(someSlot(), some(17));
         else if (kind < 66) line();
         else if (kind < 70) lot(random.nextInt(4) == 0 ? some(100001) : 1 + upTo(300), some(4), random.nextBoolean());
         else if (kind < 88) cut(someSlot(), some(7), random.nextInt(3) == 0 ? some(300) : 1 + upTo(100));
         else if (kind < 91) keep();
-        else if (kind < 94) same("undo()", desk.undo() ? 1 : 0, naive.undo() ? 1 : 0);
+        else if (kind < 94) same("undo()", desk.undo(), naive.undo());
         else share(somePattern(), some(9) - 4, some(2));
     }
 
     private void same(String call, long got, long due) {
+        calls++;
         check.same(call, got, due);
     }
 
     private void same(String call, boolean got, boolean due) {
-        check.same(call, got, due);
+        same(call, got ? 1 : 0, due ? 1 : 0);
     }
 
     private void mill(int w, int edge, int knives) {
@@ -149,7 +153,7 @@ public final class RandomRunsTest {
 
     private void fewest() {
         same("fewest()", desk.fewest(), naive.fewest());
-        observe();
+        look(30);
     }
 
     private void slot(int k, int n) {
@@ -160,10 +164,8 @@ public final class RandomRunsTest {
         same("drop(" + s + ")", desk.drop(s), naive.drop(s));
     }
 
-    private long someSlotted() {
-        int s = someSlot();
-        int what = some(17);
-        return desk.slotted(s, what) - naive.slotted(s, what);
+    private void slotted(int s, int what) {
+        same("slotted(" + s + ", " + what + ")", desk.slotted(s, what), naive.slotted(s, what));
     }
 
     private void line() {
@@ -179,7 +181,7 @@ public final class RandomRunsTest {
             slot(somePattern(), 2);
         }
         same("line()", desk.line(), naive.line());
-        observe();
+        look(30);
     }
 
     private void lot(int metres, int rolls, boolean flawed) {
@@ -192,6 +194,7 @@ public final class RandomRunsTest {
     }
 
     private void keep() {
+        calls++;
         desk.keep();
         naive.keep();
     }
@@ -216,20 +219,19 @@ public final class RandomRunsTest {
         }
     }
 
-    private void observe() {
-        same("patterns()", desk.patterns(), naive.patterns());
-        for (int what = -1; what < 8; what++) {
-            same("plan(" + what + ")", desk.plan(what), naive.plan(what));
-            same("area(" + what + ")", desk.area(what), naive.area(what));
-            for (int n = -1; n < 9; n++) {
-                same("about(" + n + ", " + what + ")", desk.about(n, what), naive.about(n, what));
-                same("lotted(" + n + ", " + what + ")", desk.lotted(n, what), naive.lotted(n, what));
-            }
+    private void look(int times) {
+        for (int n = 0; n < times && calls < MOST_CALLS; n++) {
+            lookOnce(random.nextInt(10), random.nextInt(9) - 1);
         }
-        for (int s = -1; s <= naive.plan(0); s++) {
-            for (int what = -1; what < 18; what++) {
-                same("slotted(" + s + ", " + what + ")", desk.slotted(s, what), naive.slotted(s, what));
-            }
-        }
+    }
+
+    private void lookOnce(int kind, int what) {
+        int i = random.nextInt(9) - 1;
+        if (kind < 1) same("patterns()", desk.patterns(), naive.patterns());
+        else if (kind < 2) same("plan(" + what + ")", desk.plan(what), naive.plan(what));
+        else if (kind < 4) same("area(" + what + ")", desk.area(what), naive.area(what));
+        else if (kind < 6) same("about(" + i + ", " + what + ")", desk.about(i, what), naive.about(i, what));
+        else if (kind < 7) same("lotted(" + i + ", " + what + ")", desk.lotted(i, what), naive.lotted(i, what));
+        else slotted(random.nextInt(naive.plan(0) + 2) - 1, random.nextInt(19) - 1);
     }
 }
