@@ -903,6 +903,7 @@ public final class ReelSlitter {
      */
     private static final class Lining {
         private static final int ROWS = MOST_LINED + 1;
+        private static final int ABOVE_ALL_MOVES = MOST_LINED * (MOST_KNIVES + 1) + 1;
         private int size = 0;
         private final int[] steps = new int[ROWS * MOST_LINED];
         private final int[] least = new int[ROWS << MOST_LINED];
@@ -952,7 +953,7 @@ public final class ReelSlitter {
         }
 
         private int leastBehind(int set, int row) {
-            int found = Integer.MAX_VALUE;
+            int found = ABOVE_ALL_MOVES;
             for (int s = 0; s < size; s++) {
                 if (!has(set, s)) {
                     found = Math.min(found, movesBy(set, row, s));

@@ -95,7 +95,7 @@ abstract class DeskChecks {
         return x;
     }
 
-    /** Makes two desks alike, refuses a call on one of them, and sees that no later call tells them apart. */
+    /** Makes two desks alike, refuses a call on one of them, and sees that none of the calls of view tells them apart. */
     static void refused(String call, long due, Maker maker, Call refusal) {
         ReelSlitter x = maker.make();
         is(call, refusal.on(x), due);

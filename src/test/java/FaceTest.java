@@ -1,29 +1,29 @@
+import java.io.IOException;
 import java.lang.reflect.Constructor;
 import java.lang.reflect.Field;
 import java.lang.reflect.Method;
 import java.lang.reflect.Modifier;
+import java.nio.file.Files;
+import java.nio.file.Path;
 import java.util.ArrayList;
 import java.util.Arrays;
 import java.util.List;
 import java.util.TreeSet;
+import java.util.regex.Matcher;
+import java.util.regex.Pattern;
 
-/** The class has the document's face and no other member that is not private. */
+/** The class has the members that stand in the document's face, and no other that is not private. */
 public final class FaceTest {
-    private static final String[] METHODS = {
-        "boolean mill(int,int,int)", "boolean strip(int,int)", "int width(int,int)", "boolean order(int,int)",
-        "boolean length(int)", "int about(int,int)", "int patterns()", "long pattern(int,int)",
-        "int find(int,int,int,int,int,int)", "boolean price(int,int)", "int best()", "int bound()", "int greedy()",
-        "int fewest()", "int slot(int,int)", "boolean drop(int)", "int slotted(int,int)", "int plan(int)",
-        "int line()", "int lot(int,int,boolean)", "int lotted(int,int)", "int cut(int,int,int)", "long area(int)",
-        "void keep()", "boolean undo()", "int share(int,int,int) throws java.lang.ArithmeticException"
-    };
+    private static final Path DOCUMENT = Path.of("../shared/DOC.md");
 
     public static void main(String[] args) throws Exception {
         Check check = new Check();
         Class<?> c = ReelSlitter.class;
+        TreeSet<String> methods = methodsOfTheDocument();
+        check.same("methods of the document", methods.size(), 26);
         check.same("modifiers", Modifier.toString(c.getModifiers()), "public final");
         check.same("NONE", (long) ReelSlitter.NONE, -1L);
-        check.same("methods", openMethods(c).toString(), new TreeSet<>(Arrays.asList(METHODS)).toString());
+        check.same("methods", openMethods(c).toString(), methods.toString());
         check.same("fields", openFields(c).toString(), "[public static final int NONE]");
         check.same("constructors", Arrays.toString(c.getDeclaredConstructors()), "[public ReelSlitter()]");
         for (Constructor<?> k : c.getDeclaredConstructors()) {
@@ -35,6 +35,18 @@ public final class FaceTest {
             check.same(inner + " is hidden", Modifier.isPublic(m) || Modifier.isProtected(m), false);
         }
         check.end();
+    }
+
+    /** As reflection writes them: without the names of the parameters, and each exception with its package. */
+    private static TreeSet<String> methodsOfTheDocument() throws IOException {
+        String face = Files.readString(DOCUMENT).replaceAll("(?s).*```java\n(.*?)```.*", "$1");
+        TreeSet<String> methods = new TreeSet<>();
+        Matcher line = Pattern.compile("(?m)^    public (\\w+ \\w+\\(.*\\).*);$").matcher(face);
+        while (line.find()) {
+            methods.add(line.group(1).replaceAll("(int|boolean) \\w+(?=[,)])", "$1").replace(", ", ",")
+                    .replace("throws ", "throws java.lang."));
+        }
+        return methods;
     }
 
     private static TreeSet<String> openMethods(Class<?> c) {
